@@ -10,6 +10,7 @@ public final class BookBarge {
 
     private static final int CANNOT_BE = -2;
     private static final int FAR_OFF = -1000000;
+    private static final int BEYOND_ALL = 1000000000;
     private static final int LONGEST_TAPE = 400;
     private static final int MOST_RULES = 6;
     private static final int MOST_IMAGES = 4;
@@ -26,14 +27,14 @@ public final class BookBarge {
     private final int[] past = new int[MOST_UNDONE * World.MOVING];
     private int pastNext = 0;
     private int pastCount = 0;
-    private final RiverParser riverParser = new RiverParser(tape);
-    private final RuleParser ruleParser = new RuleParser(tape);
+    private final RiverParser riverParser = new RiverParser();
+    private final RuleParser ruleParser = new RuleParser();
     private final Journey journey = new Journey();
-    private final Leaving leaving = new Leaving(world);
-    private final Lending lender = new Lending(world);
-    private final Meeting meeter = new Meeting(world);
-    private final Cargo cargo = new Cargo(world);
-    private final Plugging plugging = new Plugging(world);
+    private final Leaving leaving = new Leaving();
+    private final Lending lender = new Lending();
+    private final Meeting meeter = new Meeting();
+    private final Cargo cargo = new Cargo();
+    private final Plugging plugging = new Plugging();
 
     public BookBarge() {
     }
@@ -66,7 +67,7 @@ public final class BookBarge {
     }
 
     public int river() {
-        int fault = riverParser.parse(tapeLength);
+        int fault = riverParser.parse(tape, tapeLength);
         tapeLength = 0;
         if (fault != 0) {
             return -2 - fault;
@@ -82,7 +83,7 @@ public final class BookBarge {
         if (ruleCount >= MOST_RULES) {
             return NONE;
         }
-        int fault = ruleParser.parse(tapeLength);
+        int fault = ruleParser.parse(tape, tapeLength);
         tapeLength = 0;
         if (fault != 0) {
             return -2 - fault;
@@ -321,7 +322,7 @@ public final class BookBarge {
         if (!world.isFrom(barge, stop) || stop == world.cell(World.AT, barge) || what < 0 || what > 1) {
             return NONE;
         }
-        if (!leaving.find(barge, stop)) {
+        if (!leaving.find(world, barge, stop)) {
             return CANNOT_BE;
         }
         return what == 0 ? leaving.bestWorth : leaving.bestSet;
@@ -331,9 +332,9 @@ public final class BookBarge {
         if (!world.isFrom(barge, stop) || what < 0 || what > 7) {
             return NONE;
         }
-        int coins = lender.mostCoins(barge, stop, 0, NONE);
+        int coins = lender.mostCoins(world, barge, stop, 0, NONE);
         if (what == 1) {
-            return Math.max(lender.mostCoins(barge, stop, 1, NONE), 0) - Math.max(coins, 0);
+            return Math.max(lender.mostCoins(world, barge, stop, 1, NONE), 0) - Math.max(coins, 0);
         }
         if (coins == NONE) {
             return CANNOT_BE;
@@ -345,8 +346,8 @@ public final class BookBarge {
         if (!world.isFrom(barge, stop) || !world.hasReader(reader)) {
             return NONE;
         }
-        int coins = Math.max(lender.mostCoins(barge, stop, 0, NONE), 0);
-        return coins - Math.max(lender.mostCoins(barge, stop, 0, reader), 0);
+        int coins = Math.max(lender.mostCoins(world, barge, stop, 0, NONE), 0);
+        return coins - Math.max(lender.mostCoins(world, barge, stop, 0, reader), 0);
     }
 
     public int room(int barge, int shelf) {
@@ -364,14 +365,14 @@ public final class BookBarge {
         if (!world.bargesMeet()) {
             return NONE;
         }
-        return meeter.find() ? meeter.bestSet : CANNOT_BE;
+        return meeter.find(world) ? meeter.bestSet : CANNOT_BE;
     }
 
     public int aboard(int barge, int draught, int tilt, int what) {
         if (!world.hasBarge(barge) || draught < 0 || draught > 9999 || what < 0 || what > 2) {
             return NONE;
         }
-        cargo.find(barge, draught, tilt, tilt == FAR_OFF);
+        cargo.find(world, barge, draught, tilt, tilt == FAR_OFF);
         if (what == 0) {
             return cargo.found;
         }
@@ -385,7 +386,7 @@ public final class BookBarge {
         if (!world.hasBarge(barge) || what < 0 || what > 4) {
             return NONE;
         }
-        if (!plugging.find(barge)) {
+        if (!plugging.find(world, barge)) {
             return CANNOT_BE;
         }
         return what == 0 ? plugging.bestWorth : plugging.best[what - 1];
@@ -596,9 +597,7 @@ public final class BookBarge {
             return tilt;
         }
 
-        int draughtBy(int barge, int load, int tilt) {
-            int stone = cell(STONE, barge);
-            int lean = cell(LEAN, barge);
+        static int draughtBy(int load, int tilt, int stone, int lean) {
             if (stone < 1 || lean < 1) {
                 return 0;
             }
@@ -606,7 +605,7 @@ public final class BookBarge {
         }
 
         int draughtOf(int barge) {
-            return draughtBy(barge, loadOf(barge), tiltOf(barge));
+            return draughtBy(loadOf(barge), tiltOf(barge), cell(STONE, barge), cell(LEAN, barge));
         }
 
         boolean passes(int barge, int stop) {
@@ -763,8 +762,10 @@ public final class BookBarge {
             int load = loadOf(barge);
             int tilt = tiltOf(barge);
             int arm = arm(barge, shelf);
-            for (int weight = Math.min(999, depth * cell(STONE, barge) - load); weight > 0; weight--) {
-                if (draughtBy(barge, load + weight, tilt + weight * arm) <= depth) {
+            int stone = cell(STONE, barge);
+            int lean = cell(LEAN, barge);
+            for (int weight = Math.min(999, depth * stone - load); weight > 0; weight--) {
+                if (draughtBy(load + weight, tilt + weight * arm, stone, lean) <= depth) {
                     return weight;
                 }
             }
@@ -781,18 +782,15 @@ public final class BookBarge {
         static final int ONE_CLAUSE_TOO_MANY = 4;
         private static final int MOST_DIGITS = 5;
 
-        private final int[] text;
+        private final int[] text = new int[LONGEST_TAPE];
         private int length = 0;
         int place = 0;
         int number = 0;
         int fault = 0;
 
-        Scanner(int[] text) {
-            this.text = text;
-        }
-
-        final void open(int bytes) {
-            length = Math.min(bytes, text.length);
+        final void open(int[] tape, int bytes) {
+            length = Math.max(0, Math.min(bytes, Math.min(tape.length, LONGEST_TAPE)));
+            System.arraycopy(tape, 0, text, 0, length);
             place = 0;
             fault = 0;
             skipBlanks();
@@ -918,13 +916,9 @@ public final class BookBarge {
         final World told = new World();
         private final int[] cells = told.cells;
 
-        RiverParser(int[] text) {
-            super(text);
-        }
-
         /** The FAULT, or 0. */
-        int parse(int bytes) {
-            open(bytes);
+        int parse(int[] tape, int bytes) {
+            open(tape, bytes);
             Arrays.fill(cells, 0);
             boolean hasMore = true;
             for (int clauses = 0; clauses <= MOST_CLAUSES && hasMore; clauses++) {
@@ -1064,13 +1058,9 @@ public final class BookBarge {
         private int clauseCount = 0;
         private int parts = 0;
 
-        RuleParser(int[] text) {
-            super(text);
-        }
-
         /** The FAULT, or 0. */
-        int parse(int bytes) {
-            open(bytes);
+        int parse(int[] tape, int bytes) {
+            open(tape, bytes);
             codeLength = 0;
             clauseCount = 0;
             parts = 0;
@@ -1451,7 +1441,7 @@ public final class BookBarge {
                 if (world.bargeOf(book) == barge) {
                     tellBook(book);
                     int clause = rule.firstClause(Rule.SHIFT, world.cell(World.SHELVES, barge), words);
-                    if (clause != NONE) {
+                    if (clause != NONE && rule.part(clause, Rule.TO_SHELF) != world.cell(World.SHELF, book)) {
                         world.putAboard(book, barge, rule.part(clause, Rule.TO_SHELF));
                         tellBarge();
                     }
@@ -1538,23 +1528,20 @@ public final class BookBarge {
 
     /** LEFT: which BOOKS must stay behind. Sets come in the order of their bits, so only a better one is taken. */
     private static final class Leaving {
-        private final World world;
         private final int[] heavy = new int[World.MOST_BOOKS];
         private final int[] turn = new int[World.MOST_BOOKS];
         private final int[] worthOf = new int[World.MOST_BOOKS];
-        private int barge = 0;
+        private int stone = 1;
+        private int lean = 1;
         private int depth = 0;
         private int bestSize = 0;
         int bestWorth = 0;
         int bestSet = 0;
 
-        Leaving(World world) {
-            this.world = world;
-        }
-
-        boolean find(int barge, int stop) {
-            this.barge = barge;
-            depth = Integer.MAX_VALUE;
+        boolean find(World world, int barge, int stop) {
+            stone = world.cell(World.STONE, barge);
+            lean = world.cell(World.LEAN, barge);
+            depth = BEYOND_ALL;
             for (int next = world.cell(World.AT, barge) + 1; next <= stop; next++) {
                 depth = Math.min(depth, world.depthOf(next));
             }
@@ -1563,7 +1550,7 @@ public final class BookBarge {
                 turn[book] = heavy[book] * world.arm(barge, world.cell(World.SHELF, book));
                 worthOf[book] = world.cell(World.WORTH, book);
             }
-            bestWorth = Integer.MAX_VALUE;
+            bestWorth = BEYOND_ALL;
             bestSize = 0;
             bestSet = NONE;
             search(world.cell(World.BOOKS, 0) - 1, world.loadOf(barge), world.tiltOf(barge), 0, 0, 0);
@@ -1575,7 +1562,7 @@ public final class BookBarge {
                 return;
             }
             if (book < 0 || book >= World.MOST_BOOKS) {
-                if (world.draughtBy(barge, load, tilt) <= depth) {
+                if (World.draughtBy(load, tilt, stone, lean) <= depth) {
                     bestWorth = worth;
                     bestSize = size;
                     bestSet = set;
@@ -1592,51 +1579,60 @@ public final class BookBarge {
 
     /** LENDING: rows come in their order, so only one of more COINS is taken. */
     private static final class Lending {
-        private final World world;
         private final int[] gains = new int[World.MOST_READERS * World.MOST_BOOKS];
         private final int[] atMost = new int[World.MOST_READERS + 1];
+        private final int[] home = new int[World.MOST_READERS];
+        private final int[] heavy = new int[World.MOST_BOOKS];
+        private final int[] turn = new int[World.MOST_BOOKS];
+        private final int[] depths = new int[World.MOST_STOPS];
         private final int[] lessLoad = new int[World.MOST_STOPS];
         private final int[] lessTilt = new int[World.MOST_STOPS];
         private final int[] row = new int[World.MOST_READERS];
         final int[] best = new int[World.MOST_READERS];
         private int bestCoins = NONE;
-        private int barge = 0;
+        private int first = 0;
         private int last = 0;
-        private int moreDepth = 0;
         private int load = 0;
         private int tilt = 0;
-
-        Lending(World world) {
-            this.world = world;
-        }
+        private int stone = 1;
+        private int lean = 1;
 
         /** The most COINS up to a STOP, each DEPTH so much more, without a READER (or NONE); NONE: it can't be. */
-        int mostCoins(int barge, int last, int moreDepth, int without) {
-            this.barge = barge;
+        int mostCoins(World world, int barge, int last, int moreDepth, int without) {
+            first = world.cell(World.AT, barge);
             this.last = last;
-            this.moreDepth = moreDepth;
             load = world.loadOf(barge);
             tilt = world.tiltOf(barge);
-            bestCoins = NONE;
-            Arrays.fill(row, NONE);
-            Arrays.fill(best, NONE);
-            Arrays.fill(lessLoad, 0);
-            Arrays.fill(lessTilt, 0);
-            for (int reader = World.MOST_READERS - 1; reader >= 0; reader--) {
-                atMost[reader] = atMost[reader + 1] + noteGains(reader, reader == without);
+            stone = world.cell(World.STONE, barge);
+            lean = world.cell(World.LEAN, barge);
+            for (int stop = 0; stop < World.MOST_STOPS; stop++) {
+                depths[stop] = world.depthOf(stop) + moreDepth;
+                lessLoad[stop] = 0;
+                lessTilt[stop] = 0;
             }
+            for (int book = 0; book < World.MOST_BOOKS; book++) {
+                heavy[book] = world.bargeOf(book) == barge ? world.heavy(book) : 0;
+                turn[book] = heavy[book] * world.arm(barge, world.cell(World.SHELF, book));
+            }
+            for (int reader = World.MOST_READERS - 1; reader >= 0; reader--) {
+                atMost[reader] = atMost[reader + 1] + noteGains(world, reader, reader == without);
+                row[reader] = NONE;
+                best[reader] = NONE;
+            }
+            bestCoins = NONE;
             search(0, 0, 0);
             return bestCoins;
         }
 
         /** Notes what each BOOK would bring of a READER, 0 where it can't be; answers the most of these. */
-        private int noteGains(int reader, boolean isOut) {
-            int home = world.cell(World.HOME, reader);
+        private int noteGains(World world, int reader, boolean isOut) {
+            int stop = world.cell(World.HOME, reader);
+            home[reader] = stop;
             boolean canLend = world.hasReader(reader) && !isOut && world.cell(World.HAS, reader) == NONE
-                && world.isFrom(barge, home) && home <= last;
+                && stop >= first && stop <= last;
             int most = 0;
             for (int book = 0; book < World.MOST_BOOKS; book++) {
-                int gain = canLend && world.bargeOf(book) == barge ? world.coins(reader, book) : 0;
+                int gain = canLend && heavy[book] > 0 ? world.coins(reader, book) : 0;
                 gains[reader * World.MOST_BOOKS + book] = gain;
                 most = Math.max(most, gain);
             }
@@ -1647,7 +1643,7 @@ public final class BookBarge {
             if (reader < 0 || reader >= World.MOST_READERS) {
                 if (coins > bestCoins && passesAll()) {
                     bestCoins = coins;
-                    System.arraycopy(row, 0, best, 0, row.length);
+                    System.arraycopy(row, 0, best, 0, World.MOST_READERS);
                 }
                 return;
             }
@@ -1655,38 +1651,29 @@ public final class BookBarge {
                 return;
             }
             search(reader + 1, coins, used);
-            if (atMost[reader] == atMost[reader + 1]) {
-                return;
-            }
-            int home = world.cell(World.HOME, reader);
-            for (int book = 0; book < World.MOST_BOOKS; book++) {
+            int stop = home[reader];
+            boolean canGain = atMost[reader] > atMost[reader + 1] && stop >= 0 && stop < World.MOST_STOPS;
+            for (int book = 0; canGain && book < World.MOST_BOOKS; book++) {
                 int gain = gains[reader * World.MOST_BOOKS + book];
                 if (gain > 0 && (used >> book & 1) == 0) {
                     row[reader] = book;
-                    unload(book, home, 1);
+                    lessLoad[stop] += heavy[book];
+                    lessTilt[stop] += turn[book];
                     search(reader + 1, coins + gain, used | 1 << book);
-                    unload(book, home, -1);
+                    lessLoad[stop] -= heavy[book];
+                    lessTilt[stop] -= turn[book];
                 }
             }
             row[reader] = NONE;
         }
 
-        private void unload(int book, int stop, int times) {
-            if (stop < 0 || stop >= World.MOST_STOPS) {
-                return;
-            }
-            int heavy = world.heavy(book) * times;
-            lessLoad[stop] += heavy;
-            lessTilt[stop] += heavy * world.arm(barge, world.cell(World.SHELF, book));
-        }
-
         private boolean passesAll() {
             int loadHere = load;
             int tiltHere = tilt;
-            for (int stop = world.cell(World.AT, barge); stop < last && stop < World.MOST_STOPS; stop++) {
+            for (int stop = Math.max(first, 0); stop < last && stop + 1 < World.MOST_STOPS; stop++) {
                 loadHere -= lessLoad[stop];
                 tiltHere -= lessTilt[stop];
-                if (world.draughtBy(barge, loadHere, tiltHere) > world.depthOf(stop + 1) + moreDepth) {
+                if (World.draughtBy(loadHere, tiltHere, stone, lean) > depths[stop + 1]) {
                     return false;
                 }
             }
@@ -1696,25 +1683,33 @@ public final class BookBarge {
 
     /** MEETING: sets come in the order of their bits, so only one of fewer BOOKS is taken. */
     private static final class Meeting {
-        private final World world;
         private final int[] heavy = new int[World.MOST_BOOKS];
         private final int[] turn0 = new int[World.MOST_BOOKS];
         private final int[] turn1 = new int[World.MOST_BOOKS];
-        private int depthOn = 0;
-        private int depthBack = 0;
+        private int stone0 = 1;
+        private int lean0 = 1;
+        private int depth0 = 0;
+        private int stone1 = 1;
+        private int lean1 = 1;
+        private int depth1 = 0;
         private int bestSize = 0;
         int bestSet = NONE;
 
-        Meeting(World world) {
-            this.world = world;
-        }
-
-        boolean find() {
+        boolean find(World world) {
             int stop = world.cell(World.AT, 0);
-            depthOn = world.hasStop(stop + 1) ? world.depthOf(stop + 1) : Integer.MAX_VALUE;
-            depthBack = world.hasStop(stop - 1) ? world.depthOf(stop - 1) : Integer.MAX_VALUE;
+            depth0 = world.hasStop(stop + 1) ? world.depthOf(stop + 1) : BEYOND_ALL;
+            depth1 = world.hasStop(stop - 1) ? world.depthOf(stop - 1) : BEYOND_ALL;
+            stone0 = world.cell(World.STONE, 0);
+            stone1 = world.cell(World.STONE, 1);
+            lean0 = world.cell(World.LEAN, 0);
+            lean1 = world.cell(World.LEAN, 1);
             for (int book = 0; book < World.MOST_BOOKS; book++) {
-                noteHanding(book, world.bargeOf(book), world.cell(World.SHELF, book));
+                int barge = world.bargeOf(book);
+                int shelf = world.cell(World.SHELF, book);
+                // What goes from BARGE 0 to BARGE 1: below 0 where it goes the other way.
+                heavy[book] = barge == NONE ? 0 : world.heavy(book) * (1 - 2 * barge);
+                turn0[book] = heavy[book] * world.arm(0, world.shelfOf(0, shelf));
+                turn1[book] = heavy[book] * world.arm(1, world.shelfOf(1, shelf));
             }
             bestSize = World.MOST_BOOKS + 1;
             bestSet = NONE;
@@ -1723,22 +1718,13 @@ public final class BookBarge {
             return bestSet != NONE;
         }
 
-        /** What goes from BARGE 0 to BARGE 1; below 0 where it goes the other way. */
-        private void noteHanding(int book, int barge, int shelf) {
-            heavy[book] = 0;
-            if (barge != NONE) {
-                heavy[book] = barge == 0 ? world.heavy(book) : -world.heavy(book);
-            }
-            turn0[book] = heavy[book] * world.arm(0, world.shelfOf(0, shelf));
-            turn1[book] = heavy[book] * world.arm(1, world.shelfOf(1, shelf));
-        }
-
         private void search(int book, int load0, int tilt0, int load1, int tilt1, int size, int set) {
             if (size >= bestSize) {
                 return;
             }
             if (book < 0 || book >= World.MOST_BOOKS) {
-                if (world.draughtBy(0, load0, tilt0) <= depthOn && world.draughtBy(1, load1, tilt1) <= depthBack) {
+                if (World.draughtBy(load0, tilt0, stone0, lean0) <= depth0
+                    && World.draughtBy(load1, tilt1, stone1, lean1) <= depth1) {
                     bestSize = size;
                     bestSet = set;
                 }
@@ -1754,12 +1740,11 @@ public final class BookBarge {
 
     /** ABOARD: which sets of BOOKS would make her lie so. */
     private static final class Cargo {
-        private final World world;
         private final int[] heavy = new int[World.MOST_BOOKS];
         private final int[] turn = new int[World.MOST_BOOKS];
-        private int barge = 0;
+        private int stone = 1;
+        private int lean = 1;
         private int draught = 0;
-        private int mostLoad = 0;
         private int tiltWanted = 0;
         private boolean isAnyTilt = false;
         private int some = 0;
@@ -1767,17 +1752,13 @@ public final class BookBarge {
         int inAll = 0;
         int inNone = 0;
 
-        Cargo(World world) {
-            this.world = world;
-        }
-
-        void find(int barge, int draught, int tiltWanted, boolean isAnyTilt) {
-            this.barge = barge;
+        void find(World world, int barge, int draught, int tiltWanted, boolean isAnyTilt) {
             this.draught = draught;
             this.tiltWanted = tiltWanted;
             this.isAnyTilt = isAnyTilt;
-            mostLoad = draught * world.cell(World.STONE, barge);
-            int candidates = noteCandidates();
+            stone = world.cell(World.STONE, barge);
+            lean = world.cell(World.LEAN, barge);
+            int candidates = noteCandidates(world, barge);
             found = 0;
             some = 0;
             inAll = candidates;
@@ -1786,7 +1767,7 @@ public final class BookBarge {
             inNone = candidates & ~some;
         }
 
-        private int noteCandidates() {
+        private int noteCandidates(World world, int barge) {
             int candidates = 0;
             for (int book = 0; book < World.MOST_BOOKS; book++) {
                 heavy[book] = 0;
@@ -1803,11 +1784,11 @@ public final class BookBarge {
 
         // More BOOKS only make her heavier, so a set that is too heavy ends the search there.
         private void search(int book, int load, int tilt, int set) {
-            if (load > mostLoad) {
+            if (load > draught * stone) {
                 return;
             }
             if (book < 0 || book >= World.MOST_BOOKS) {
-                if ((isAnyTilt || tilt == tiltWanted) && world.draughtBy(barge, load, tilt) == draught) {
+                if ((isAnyTilt || tilt == tiltWanted) && World.draughtBy(load, tilt, stone, lean) == draught) {
                     found++;
                     inAll &= set;
                     some |= set;
@@ -1823,21 +1804,29 @@ public final class BookBarge {
 
     /** PLUGS: rows come in their order, so only one of less WORTH is taken. */
     private static final class Plugging {
-        private final World world;
+        private final boolean[] isNeeded = new boolean[World.MOST_HOLES];
+        private final int[] fitting = new int[World.MOST_HOLES];
+        private final int[] worthOf = new int[World.MOST_BOOKS];
         private final int[] row = new int[World.MOST_HOLES];
         final int[] best = new int[World.MOST_HOLES];
-        private int barge = 0;
         int bestWorth = 0;
 
-        Plugging(World world) {
-            this.world = world;
-        }
-
-        boolean find(int barge) {
-            this.barge = barge;
-            bestWorth = Integer.MAX_VALUE;
+        boolean find(World world, int barge) {
+            for (int hole = 0; hole < World.MOST_HOLES; hole++) {
+                isNeeded[hole] = world.isOpen(hole) && world.cell(World.HOLE_BARGE, hole) == barge;
+                fitting[hole] = 0;
+                for (int book = 0; book < World.MOST_BOOKS; book++) {
+                    if (world.fits(book, hole)) {
+                        fitting[hole] |= 1 << book;
+                    }
+                }
+            }
+            for (int book = 0; book < World.MOST_BOOKS; book++) {
+                worthOf[book] = world.cell(World.WORTH, book);
+            }
+            bestWorth = BEYOND_ALL;
             search(0, 0, 0);
-            return bestWorth != Integer.MAX_VALUE;
+            return bestWorth != BEYOND_ALL;
         }
 
         private void search(int hole, int worth, int used) {
@@ -1846,18 +1835,18 @@ public final class BookBarge {
             }
             if (hole < 0 || hole >= World.MOST_HOLES) {
                 bestWorth = worth;
-                System.arraycopy(row, 0, best, 0, row.length);
+                System.arraycopy(row, 0, best, 0, World.MOST_HOLES);
                 return;
             }
             row[hole] = NONE;
-            if (!world.isOpen(hole) || world.cell(World.HOLE_BARGE, hole) != barge) {
+            if (!isNeeded[hole]) {
                 search(hole + 1, worth, used);
                 return;
             }
             for (int book = 0; book < World.MOST_BOOKS; book++) {
-                if ((used >> book & 1) == 0 && world.fits(book, hole)) {
+                if ((fitting[hole] & ~used & 1 << book) != 0) {
                     row[hole] = book;
-                    search(hole + 1, worth + world.cell(World.WORTH, book), used | 1 << book);
+                    search(hole + 1, worth + worthOf[book], used | 1 << book);
                 }
             }
         }
