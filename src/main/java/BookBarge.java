@@ -653,17 +653,15 @@ public final class BookBarge {
             return hasReader(reader) && cells[HOME + reader] == cell(AT, barge) && cells[HAS + reader] == NONE;
         }
 
-        /** Of the READERS there who have none the one whose WISH for a BOOK is greatest; NONE without a WISH. */
-        int keenestReader(int book, int barge) {
+        /** Of the READERS at a STOP who have none the one whose WISH for a BOOK is greatest; NONE without a WISH. */
+        int keenestReader(int book, int stop) {
             int keenest = NONE;
             int most = 0;
-            for (int reader = 0; reader < cells[READERS]; reader++) {
-                if (cells[HAS + reader] == NONE && cells[HOME + reader] == cells[AT + barge]) {
-                    int coins = coins(reader, book);
-                    if (coins > most) {
-                        most = coins;
-                        keenest = reader;
-                    }
+            for (int reader = 0; reader < cells[READERS] && hasBook(book); reader++) {
+                int coins = cells[WISHES + reader * MOST_BOOKS + book];
+                if (coins > most && cells[HOME + reader] == stop && cells[HAS + reader] == NONE) {
+                    most = coins;
+                    keenest = reader;
                 }
             }
             return keenest;
@@ -818,7 +816,7 @@ public final class BookBarge {
         }
 
         final boolean isAtDigit() {
-            return sign() >= '0' && sign() <= '9';
+            return place >= 0 && place < length && text[place] >= '0' && text[place] <= '9';
         }
 
         /** Only the next byte, without the blanks behind it: a second one may belong to it. */
@@ -847,7 +845,7 @@ public final class BookBarge {
             number = 0;
             while (place < length && isAtDigit()) {
                 if (digits < MOST_DIGITS) {
-                    number = number * 10 + sign() - '0';
+                    number = number * 10 + text[place] - '0';
                 }
                 digits++;
                 place++;
@@ -1152,10 +1150,8 @@ public final class BookBarge {
 
         private boolean readFact(int depth) {
             boolean isNot = wordAmong("not") == 0;
-            if (!isNot && sign() != '[') {
-                return readSum() && readComparison();
-            }
-            if (depth >= DEEPEST) {
+            boolean isGroup = sign() == '[';
+            if ((isNot || isGroup) && depth >= DEEPEST) {
                 return wrong(place, TOO_DEEP);
             }
             if (isNot) {
@@ -1166,11 +1162,13 @@ public final class BookBarge {
                 put(Rule.NOT);
                 return true;
             }
-            takeSign();
-            return readTest(depth + 1) && (tookSign(']') || wrong(place, STRAY));
-        }
-
-        private boolean readComparison() {
+            if (isGroup) {
+                takeSign();
+                return readTest(depth + 1) && (tookSign(']') || wrong(place, STRAY));
+            }
+            if (!readSum()) {
+                return false;
+            }
             int first = place;
             int comparison = takeComparison();
             if (comparison == NONE) {
@@ -1404,7 +1402,7 @@ public final class BookBarge {
             words[WORTH] = world.cell(World.WORTH, book);
             words[DAMP] = world.cell(World.DAMP, book);
             words[LOANS] = world.cell(World.LOANS, book);
-            keenest = world.keenestReader(book, barge);
+            keenest = world.keenestReader(book, here());
             words[WISH] = keenest == NONE ? 0 : world.coins(keenest, book);
         }
 
