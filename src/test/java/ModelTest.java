@@ -72,31 +72,43 @@ public final class ModelTest {
         return chance(80) ? " " : chance(50) ? "  " : "   ";
     }
 
+    /** A river whose depths are about what its barges need, so that passing hangs on a book or two. */
     private String riverText() {
         StringBuilder t = new StringBuilder();
-        int barges = pick(1, 2);
+        int barges = chance(40) ? 1 : 2;
         int[] shelves = new int[2];
-        boolean light = chance(50);
+        int[] stone = new int[2];
+        int[] load = new int[2];
         for (int b = 0; b < barges; b++) {
             shelves[b] = pick(1, chance(70) ? 4 : 8);
-            if (b > 0) t.append(';');
-            t.append("barge ").append(shelves[b]).append(gap()).append(light ? pick(0, 30) : pick(0, 200)).append(' ')
-                .append(pick(1, chance(80) ? 9 : 99)).append(' ').append(pick(1, chance(70) ? 20 : 200));
+            load[b] = chance(70) ? pick(0, 30) : pick(0, 9999);
+            stone[b] = pick(1, chance(80) ? 9 : 99);
+            t.append(b > 0 ? ";barge " : "barge ").append(shelves[b]).append(gap()).append(load[b]).append(' ')
+                .append(stone[b]).append(' ').append(pick(1, chance(70) ? 20 : 200));
         }
         int books = chance(10) ? 12 : pick(0, 9);
-        int stops = pick(1, chance(80) ? 5 : 8);
+        int stops = pick(1, chance(80) ? 4 : 8);
         int readers = pick(0, chance(70) ? 3 : 6);
         int holes = pick(0, 3);
+        boolean isWorthAlike = chance(50);
+        StringBuilder told = new StringBuilder();
+        for (int b = 0; b < books; b++) {
+            int on = random.nextInt(barges);
+            int weight = pick(1, chance(20) ? 2 : chance(70) ? 15 : 99);
+            load[on] += weight;
+            told.append(";book ").append(weight).append(gap()).append(pick(0, isWorthAlike ? 2 : 99)).append(' ')
+                .append(on).append(' ').append(random.nextInt(shelves[on]));
+        }
         for (int k = 0; k < stops; k++) {
             t.append(";stop");
             int depths = chance(60) ? 1 : pick(1, 4);
-            for (int d = 0; d < depths; d++) t.append(' ').append(pick(1, chance(80) ? 40 : 200));
+            for (int d = 0; d < depths; d++) {
+                int on = random.nextInt(barges);
+                int full = Math.min(700, load[on] / stone[on] + 1);
+                t.append(' ').append(pick(Math.max(1, full / 2), full * 5 / 4 + 2));
+            }
         }
-        for (int b = 0; b < books; b++) {
-            int on = random.nextInt(barges);
-            t.append(";book ").append(pick(1, chance(70) ? 15 : 99)).append(gap()).append(pick(0, chance(50) ? 5 : 99))
-                .append(' ').append(on).append(' ').append(random.nextInt(shelves[on]));
-        }
+        t.append(told);
         for (int r = 0; r < readers; r++) {
             t.append(";reader ").append(random.nextInt(stops)).append(' ').append(pick(0, 9)).append(' ')
                 .append(pick(1, chance(80) ? 3 : 99));
@@ -160,7 +172,12 @@ public final class ModelTest {
             case 1: if (t.length() > 0) t.deleteCharAt(at); break;
             case 2: t.insert(at, bytes.charAt(random.nextInt(bytes.length()))); break;
             case 3: if (t.length() > 0) t.setCharAt(at, bytes.charAt(random.nextInt(bytes.length()))); break;
-            case 4: t.insert(at, chance(50) ? "000001" : "not not not not not not not not not not "); break;
+            case 4: {
+                String deep = "not ".repeat(pick(8, 11));
+                int test = Math.max(t.indexOf("fetch ") + 6, t.indexOf(" if ") + 4);
+                t.insert(chance(50) || test > t.length() ? at : test, chance(30) ? "000001" : chance(50) ? deep : "[".repeat(11));
+                break;
+            }
             default: {
                 String[] parts = {";stop 9", ";hole 0 1", ";barge 1 1 1 1", ";reader 0 0 1", ";book 1 1 0 0", " 5", ";",
                     ";wish 0 0 1", "[", "]", " and 1 = 1", " or", " if 1<2", ";lend 1", ";fetch 1=1", "+1+1+1+1+1+1"};
@@ -189,7 +206,8 @@ public final class ModelTest {
         }
         look();
         for (int i = pick(5, 60); i > 0 && wrong == null; i--) {
-            if (chance(55)) act();
+            if (chance(5)) meet();
+            else if (chance(55)) act();
             else ask();
             if (chance(20)) look();
         }
@@ -252,6 +270,17 @@ public final class ModelTest {
                 same("seed " + x, barge.seed(x), model.seed(x));
             }
         }
+    }
+
+    /** The barges sail towards each other, as far as they can. */
+    private void meet() {
+        for (int i = 0; i < 8 && model.count(0) == 2; i++) {
+            int a = random.nextInt(2);
+            boolean isOn = model.lies(a, 4) < model.lies(1 - a, 4);
+            if (model.meeting() != Model.NONE) break;
+            same("sail " + a + " " + isOn, barge.sail(a, isOn), model.sail(a, isOn));
+        }
+        same("meeting", barge.meeting(), model.meeting());
     }
 
     private void ask() {

@@ -342,6 +342,8 @@ public final class PromiseTest {
         badRule(3, "fetch 1" + times(59, "+1") + "~=1");
         badRule(3, "fetch 1" + times(58, "+1") + "=~day");
         badRule(3, "lend 1" + times(58, "+1") + ";lend 1;lend ~1");
+        badRule(1, "lend ~111111 x");
+        badRule(3, "lend 1" + times(59, "+1") + "+~1 x");
         badRule(0, "lend 1" + times(59, "+1") + "+~days");
         badRule(1, "lend 1" + times(59, "+1") + "+~111111");
         badRule(0, "lend 1" + times(59, "+1") + "+~");
@@ -877,6 +879,11 @@ public final class PromiseTest {
         due("no book ahead of books", n.lending(0, 0, 2), NONE);
         due("no book ahead of books", n.lending(0, 0, 3), NONE);
         due("the last one has it", n.lending(0, 0, 4), 0);
+        BookBarge l = new PromiseTest("barge 1 0 1 1;book 4 0 0 0" + times(7, ";stop 9") + ";stop 3;reader 7 0 1;"
+            + "wish 0 0 30").x;
+        due("the last of eight stops", l.lending(0, 7, 0), CANNOT_BE);
+        due("the last but one", l.lending(0, 6, 0), 0);
+        due("an inch for the last", l.lending(0, 7, 1), 30);
         BookBarge c = new PromiseTest("barge 1 0 1 1;book 4 0 0 0;stop 9;stop 3;reader 1 0 1;wish 0 0 30").x;
         due("it can't be: as if 0", c.lending(0, 1, 1), 30);
         due("it can't be", c.lending(0, 1, 0), CANNOT_BE);
@@ -947,6 +954,22 @@ public final class PromiseTest {
         c.sail(0, true);
         c.sail(1, false);
         due("it can't be", c.meeting(), CANNOT_BE);
+        BookBarge l = new PromiseTest("barge 1 0 1 1;barge 1 0 1 1" + times(12, ";book 1 0 0 0") + ";stop 12;stop 12;stop 1")
+            .x;
+        l.sail(0, true);
+        l.sail(1, false);
+        due("eleven of twelve, the least as bits", l.meeting(), 2047);
+        BookBarge e = new PromiseTest("barge 1 1 1 1;barge 1 0 1 1" + times(12, ";book 1 0 0 0") + ";stop 13;stop 13;stop 1")
+            .x;
+        e.sail(0, true);
+        e.sail(1, false);
+        due("all twelve", e.meeting(), 4095);
+        BookBarge w = new PromiseTest("barge 2 0 9 1;barge 2 0 9 99;book 2 0 0 0;book 1 0 0 0;book 2 0 0 1;book 3 0 0 0;"
+            + "stop 9;stop 9;stop 3").x;
+        w.sail(0, true);
+        w.sail(1, false);
+        // BARGE 0 lies at 1 + 4 by her TILT of -4; the TILT of BARGE 1 hardly counts: book 0 or book 3 must go.
+        due("her own lean", w.meeting(), 1);
         shelvesOfMeeting();
     }
 
@@ -1051,9 +1074,35 @@ public final class PromiseTest {
         due("nothing stays: x", x.count(12), 0);
         due("nothing stays: books", x.count(7) * 10 + x.book(0, 0), 25);
         due("nothing stays: at", x.lies(0, 4), 0);
+        mice();
         voyagesByHand();
         BookBarge none = new PromiseTest("barge 1 0 1 1;stop 9;stop 9").voyagesWithout();
         due("without books, at the last", none.voyages(0, 0, 20, 8, 50, 0), 20);
+    }
+
+    private static void mice() {
+        // Draw 0 is not below 0: no RAIN, so that 6 and 1 WATER pass 7.
+        due("p 0", voyageLeft("barge 1 0 1 1;book 6 0 0 0;stop 9;stop 7;hole 0 1", 0), 0);
+        due("p 1, but the mice take 1", voyageLeft("barge 1 0 1 1;book 6 0 0 0;stop 9;stop 7;hole 0 1", 1), 0);
+        due("p 1", voyageLeft("barge 1 0 1 1;book 7 0 0 0;stop 9;stop 7;hole 0 1", 1), 1);
+        due("one book: mice", voyageLeft("barge 1 0 1 1;book 6 0 0 0;stop 9;stop 5", 0), 0);
+        due("of weight 2", voyageLeft("barge 1 4 1 1;book 2 0 0 0;stop 9;stop 5", 0), 0);
+        due("not of weight 1", voyageLeft("barge 1 5 1 1;book 1 0 0 0;stop 9;stop 5", 0), 1);
+        due("not of weight 1, if damp", voyageLeft("barge 1 5 1 1;book 1 0 0 0;stop 9;stop 6", 1), 1);
+        // The mice come to book 0 of two. Aboard the other it keeps its weight, but she does not sail.
+        due("of two", voyageLeft("barge 1 0 1 1;book 2 0 0 0;book 3 0 0 0;stop 9;stop 4", 0), 0);
+        due("aboard the other", voyageLeft("barge 1 0 1 1;barge 1 0 1 1;book 3 0 1 0;book 3 0 0 0;stop 9;stop 3", 0), 0);
+        PromiseTest t = new PromiseTest("barge 1 0 1 1;book 6 0 0 0;stop 9;stop 4");
+        t.toldRule("fetch weight < 6;lend weight");
+        t.x.leave(0);
+        due("not of one that is left: it would be fetched, and left again", t.x.voyages(0, 0, 1, 1, 0, 2), 0);
+    }
+
+    /** How many are LEFT on one VOYAGE of one STOP with x 0: the draws are 0 and 21468. */
+    private static int voyageLeft(String river, int p) {
+        PromiseTest t = new PromiseTest(river);
+        t.toldRule("lend weight");
+        return t.x.voyages(0, 0, 1, 1, p, 2);
     }
 
     private BookBarge voyagesWithout() {
