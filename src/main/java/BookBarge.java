@@ -239,7 +239,7 @@ public final class BookBarge {
     }
 
     public int rain() {
-        if (world.dryAboard() == 0) {
+        if (!world.canRain()) {
             return NONE;
         }
         remember();
@@ -461,6 +461,7 @@ public final class BookBarge {
      * stands first, so that an ACT is UNDONE by this part alone.
      */
     private static final class World {
+        // Where each row starts in the cells; a row has a cell for each BARGE, BOOK, STOP, READER or HOLE there can be.
         static final int DAY = 0;
         static final int AT = 1;
         static final int WATER = 3;
@@ -734,20 +735,23 @@ public final class BookBarge {
             }
         }
 
-        int dryAboard() {
-            int number = 0;
+        boolean canBeWetter(int book) {
+            return bargeOf(book) != NONE && cells[DAMP + book] < MOST_DAMP;
+        }
+
+        boolean canRain() {
             for (int book = 0; book < cells[BOOKS]; book++) {
-                if (bargeOf(book) != NONE && cells[DAMP + book] < MOST_DAMP) {
-                    number++;
+                if (canBeWetter(book)) {
+                    return true;
                 }
             }
-            return number;
+            return false;
         }
 
         int wetAboard() {
             int number = 0;
             for (int book = 0; book < cells[BOOKS]; book++) {
-                if (bargeOf(book) != NONE && cells[DAMP + book] < MOST_DAMP) {
+                if (canBeWetter(book)) {
                     cells[DAMP + book]++;
                     number++;
                 }

@@ -299,6 +299,8 @@ public final class PromiseTest {
         badRule(0, "shift ~if day = 1");
         badRule(0, "shift 1 ~day");
         badRule(0, "~lends 1");
+        badRule(0, "~lendz 1");
+        badRule(0, "lend day ~ifa 1 = 1");
         badRule(0, "~barge 1 1 1 1");
         badRule(0, "lend ~x");
         badRule(0, "lend ~if 1 = 1");
