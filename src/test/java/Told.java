@@ -47,6 +47,11 @@ final class Told {
         }
     }
 
+    /** How many calls were made and kept. */
+    int calls() {
+        return names.size();
+    }
+
     Told twin() {
         Told other = new Told();
         for (int i = 0; i < names.size(); i++) other.call(names.get(i), arguments.get(i));
