@@ -14,8 +14,8 @@ import javax.tools.JavaCompiler;
 import javax.tools.ToolProvider;
 
 /**
- * Breaks the class in one place after another (a sign, a number, a statement left out) and tells which breaks a test does
- * not see. Run by hand from the project's root, as it takes a quarter of an hour: java src/tools/java/Mutants.java TEST.
+ * Breaks the class in one place after another (a sign, a number, a statement left out) and tells which breaks no test of
+ * some sees. Run by hand from the project's root, as it takes a quarter of an hour: java src/tools/java/Mutants.java TESTS.
  */
 public final class Mutants {
     private static final Path SOURCE = Path.of("src/main/java/BookBarge.java");
@@ -29,17 +29,17 @@ public final class Mutants {
     private final String source;
     private final String bare;
     private final Path room;
-    private final String test;
+    private final List<String> names;
 
-    private Mutants(String test) throws IOException {
-        this.test = test;
+    private Mutants(List<String> names) throws IOException {
+        this.names = names;
         source = Files.readString(SOURCE);
         bare = bared(source);
         room = Files.createTempDirectory("mutants");
     }
 
     public static void main(String[] args) throws Exception {
-        new Mutants(args.length > 0 ? args[0] : "BoundaryTest").go();
+        new Mutants(args.length > 0 ? List.of(args) : List.of("BoundaryTest")).go();
     }
 
     /** The source with comments and texts blotted out, each byte where it was. */
@@ -100,24 +100,28 @@ public final class Mutants {
             System.out.println(one.get());
         }
         pool.shutdown();
-        System.out.println(breaks.size() + " breaks, " + unseen + " not seen by " + test);
+        System.out.println(breaks.size() + " breaks, " + unseen + " not seen by " + String.join(", ", names));
     }
 
-    /** What a break is, if the test does not see it; null if it does, or if the break does not compile. */
+    /** What a break is, if no test sees it; null if one does, or if the break does not compile. */
     private String tried(int number, Path tests) throws IOException, InterruptedException {
         Break one = breaks.get(number);
         Path here = Files.createDirectory(room.resolve("" + number));
         Path file = here.resolve("BookBarge.java");
         Files.writeString(file, source.substring(0, one.from) + one.into + source.substring(one.to));
         if (compiler.run(null, new Nowhere(), new Nowhere(), "-d", here.toString(), file.toString()) != 0) return null;
-        Process run = new ProcessBuilder("java", "-XX:TieredStopAtLevel=1", "-XX:+UseSerialGC", "-cp", here + ":" + tests, test)
-            .redirectErrorStream(true).redirectOutput(ProcessBuilder.Redirect.DISCARD).start();
-        boolean isOver = run.waitFor(SECONDS, TimeUnit.SECONDS);
-        if (!isOver) run.destroyForcibly();
-        if (!isOver || run.exitValue() != 0) return null;
+        for (String name : names) if (sees(name, here + ":" + tests)) return null;
         int line = (int) source.substring(0, one.from).chars().filter(c -> c == '\n').count();
         String text = source.split("\n", -1)[line].trim();
         return (line + 1) + ": " + source.substring(one.from, one.to) + " => " + one.into + "   in: " + text;
+    }
+
+    private static boolean sees(String test, String classes) throws IOException, InterruptedException {
+        Process run = new ProcessBuilder("java", "-XX:TieredStopAtLevel=1", "-XX:+UseSerialGC", "-cp", classes, test)
+            .redirectErrorStream(true).redirectOutput(ProcessBuilder.Redirect.DISCARD).start();
+        boolean isOver = run.waitFor(SECONDS, TimeUnit.SECONDS);
+        if (!isOver) run.destroyForcibly();
+        return !isOver || run.exitValue() != 0;
     }
 
     private static final class Nowhere extends java.io.OutputStream {
